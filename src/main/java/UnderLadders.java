@@ -953,34 +953,28 @@ public final class UnderLadders {
         }
 
         private boolean doTold(int doing, int middle, int last) {
+            if (!canBe(doing, middle, last)) {
+                return false;
+            }
             switch (doing) {
-                case DAY: return middle == 0 && last == 0 && doDay();
-                case MOVED: return middle < fixed.ladders && trial.isFree(last) && doMove(middle, last);
-                case DOWN: return middle == 0 && last < fixed.ladders && doDown(last);
-                case GIVEN: return middle < fixed.people && last > 0 && doGive(middle, last);
+                case DAY: trial.passDay(EVERYBODY); break;
+                case MOVED: trial.put(middle, last); break;
+                case DOWN: trial.changeMan(last); break;
+                case GIVEN: trial.endow(middle, last); break;
+                default: break;
+            }
+            return true;
+        }
+
+        private boolean canBe(int doing, int middle, int last) {
+            switch (doing) {
+                case DAY: return middle == 0 && last == 0;
+                case MOVED: return middle < fixed.ladders && trial.isFree(last);
+                case DOWN: return middle == 0 && last < fixed.ladders;
+                case GIVEN: return middle < fixed.people && last > 0;
                 case HAS: return middle < fixed.people && trial.ownLuck[middle] >= last;
                 default: return false;
             }
-        }
-
-        private boolean doDay() {
-            trial.passDay(EVERYBODY);
-            return true;
-        }
-
-        private boolean doMove(int ladder, int place) {
-            trial.put(ladder, place);
-            return true;
-        }
-
-        private boolean doDown(int ladder) {
-            trial.changeMan(ladder);
-            return true;
-        }
-
-        private boolean doGive(int person, int n) {
-            trial.endow(person, n);
-            return true;
         }
 
         /** The gold that each company of people, as bits, brings the man on a ladder. */

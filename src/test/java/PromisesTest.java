@@ -358,6 +358,13 @@ public final class PromisesTest {
         UnderLadders rich = Due.market("ML590P4672");
         rich.day();
         due.is("17 gold that he has counts", rich.spot(0, 1), 1);
+        UnderLadders long6 = Due.market("ML050P3592");
+        long6.give(0, 9);
+        long6.give(0, 9);
+        long6.give(0, 9);
+        due.is("17 six days, not seven", long6.spot(0, 1), 6);
+        long6.move(0, 4);
+        due.is("23 six days, not seven", long6.share(0, 0, true), 6);
         due.is("17 unknown", x.spot(1, 0), UNKNOWN);
         due.is("17 below", x.spot(-1, 2), UNKNOWN);
         due.is("17 outside", x.spot(0, 2), OUTSIDE);
@@ -392,6 +399,10 @@ public final class PromisesTest {
         // 4: under both 2, 1; round first 3, 2; under, round: 2, 1; both 3, 2.
         due.is("18 the first one only", tie.round(0, 0), 1);
         due.is("18 the first one only: luck", tie.round(0, 1), 2);
+        UnderLadders merge = Due.market("ML120L221L320L411P0550");
+        // 5: round 2 alone: 3, 2, 1, 1; round 0 and 1 (less as bits, but more of them): 4, 3, 1, 1.
+        due.is("18 fewest ahead of least", merge.round(0, 0), 0b0100);
+        due.is("18 fewest ahead of least: luck", merge.round(0, 1), 1);
         due.is("18 unknown", x.round(2, 0), UNKNOWN);
         due.is("18 below", x.round(-1, 2), UNKNOWN);
         due.is("18 outside", x.round(0, 2), OUTSIDE);

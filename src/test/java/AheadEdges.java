@@ -458,9 +458,11 @@ final class AheadEdges {
 
     @Edge(promise = 19, says = "told as three figures each")
     static void otherDoingsCanNotBe(Due due) {
-        UnderLadders x = all();
-        for (int figures = 500; figures <= 999; figures++) {
-            due.is("doing " + figures, x.judge(1, figures), 0);
+        for (int doing = 5; doing <= 9; doing++) {
+            UnderLadders x = all();
+            for (int figures = 0; figures <= 99; figures++) {
+                due.is("doing " + doing + " and " + figures, x.judge(1, 100 * doing + figures), 0);
+            }
         }
     }
 

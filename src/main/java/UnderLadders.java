@@ -35,7 +35,6 @@ public final class UnderLadders {
     private static final long SEED_FACTOR = 6364136223846793005L;
     private static final long SEED_STEP = 1442695040888963407L;
     private static final int UPPER_31_BITS = 33;
-    private static final int[] ORDERS = {1, 1, 2, 6, 24, 120};
     private static final int[] KINDS_SEEN = {PLAIN, STEEP, HUNGRY};
 
     private final Text text;
@@ -259,7 +258,7 @@ public final class UnderLadders {
             return UNKNOWN;
         }
         forecast.weighCompanies(ladder);
-        return inLeastTerms(forecast.sumOfGains(person), ORDERS[fixed.people], upper);
+        return inLeastTerms(forecast.sumOfGains(person), ordersOf(fixed.people), upper);
     }
 
     public int rests(int one, int other, int what) {
@@ -373,6 +372,15 @@ public final class UnderLadders {
 
     private static int lessByMud(int luck) {
         return luck > 0 ? luck - 1 : 0;
+    }
+
+    /** In how many orders so many people can come. */
+    private static int ordersOf(int people) {
+        int orders = 1;
+        for (int next = 2; next <= people; next++) {
+            orders *= next;
+        }
+        return orders;
     }
 
     private static int inLeastTerms(int above, int below, boolean upper) {
@@ -566,7 +574,7 @@ public final class UnderLadders {
             }
             for (int ladder = 0; ladder < fixed.ladders; ladder++) {
                 stand[ladder] = fixed.firstStand[ladder];
-                standing[stand[ladder]] = ladder;
+                mark(stand[ladder], ladder);
                 changeMan(ladder);
             }
             for (int person = 0; person < fixed.people; person++) {
@@ -587,17 +595,23 @@ public final class UnderLadders {
         }
 
         boolean isFree(int place) {
-            return standing[place] == NONE;
+            return isPlace(place) && standing[place] == NONE;
         }
 
         boolean isOwnOrFree(int ladder, int place) {
-            return standing[place] == ladder || standing[place] == NONE;
+            return isPlace(place) && (standing[place] == ladder || standing[place] == NONE);
         }
 
         void put(int ladder, int place) {
-            standing[stand[ladder]] = NONE;
+            mark(stand[ladder], NONE);
             stand[ladder] = place;
-            standing[place] = ladder;
+            mark(place, ladder);
+        }
+
+        private void mark(int place, int ladder) {
+            if (isPlace(place)) {
+                standing[place] = ladder;
+            }
         }
 
         void changeMan(int ladder) {
@@ -656,7 +670,8 @@ public final class UnderLadders {
         /** The ladder at a step (from 1 to the last) of the next way, or NONE. */
         private int ladderAhead(int person, int step) {
             int from = where[person];
-            return standing[from < goal(person) ? from + step : from - step];
+            int place = from < goal(person) ? from + step : from - step;
+            return isPlace(place) ? standing[place] : NONE;
         }
 
         private void meet(int person, int ladder) {
@@ -990,13 +1005,13 @@ public final class UnderLadders {
         int sumOfGains(int person) {
             int sum = 0;
             for (int company = 0; company < 1 << fixed.people; company++) {
-                if ((company >> person & 1) == 1) {
+                int joined = company | 1 << person;
+                if (joined == company || joined >= worth.length) {
                     continue;
                 }
                 int earlier = Integer.bitCount(company);
                 int later = fixed.people - 1 - earlier;
-                int gain = worth[company | 1 << person] - worth[company];
-                sum += ORDERS[earlier] * ORDERS[later] * gain;
+                sum += ordersOf(earlier) * ordersOf(later) * (worth[joined] - worth[company]);
             }
             return sum;
         }
@@ -1046,8 +1061,9 @@ public final class UnderLadders {
             int place = pair / PLACES;
             int otherPlace = pair % PLACES;
             for (int another = 0; another < PLACES; another++) {
-                if (oneGold[another * PLACES + otherPlace] > oneGold[pair]
-                        || otherGold[place * PLACES + another] > otherGold[pair]) {
+                int oneMoved = another * PLACES + otherPlace;
+                int otherMoved = place * PLACES + another;
+                if (oneGold[oneMoved] > oneGold[pair] || otherGold[otherMoved] > otherGold[pair]) {
                     return false;
                 }
             }

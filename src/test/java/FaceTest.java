@@ -8,6 +8,7 @@ import java.nio.file.Path;
 import java.util.Arrays;
 import java.util.Set;
 import java.util.TreeSet;
+import java.util.regex.Matcher;
 import java.util.regex.Pattern;
 
 /** The public face is the document's and no more, and the source keeps to what LANGUAGE.md lets it use. */
@@ -25,6 +26,13 @@ public final class FaceTest {
         "\\bthrow\\b", "\\btry\\b", "\\bcatch\\b", "\\bsynchronized\\b", "\\bassert\\b", "->", "::",
         "\\bimport\\b", "\\bpackage\\b", "\\bprotected\\b", "Exact\\b", "\\bSystem\\.(?!arraycopy)"};
 
+    private static final Set<Class<?>> STATIC_TYPES = Set.of(int.class, long.class, boolean.class, char.class,
+            String.class, int[].class, long[].class, char[].class, byte[].class);
+    private static final int MOST_CLASSES = 12, MOST_FIELDS = 20, MOST_PARAMETERS = 7, MOST_LINES = 60;
+    /** A method's or constructor's first line, by its indent: 4 in the class, 8 in those inside it. */
+    private static final Pattern HEAD = Pattern.compile("( {4}| {8})(?:\\w[\\w\\[\\]]* )*(\\w+)\\([^)]*\\) \\{");
+    private static final Pattern INDEX = Pattern.compile("(?<!new )\\b\\w+\\[([^\\]]+)\\]");
+
     private static final Due due = new Due("FaceTest");
 
     public static void main(String[] args) throws IOException {
@@ -38,7 +46,15 @@ public final class FaceTest {
             due.is(inside + " is not public", inside.getModifiers() & Modifier.PUBLIC, 0);
             checkNoPublicName(inside);
         }
-        checkSource(Files.readString(Path.of("src/main/java/UnderLadders.java")));
+        due.yes("rule 11: classes", face.getDeclaredClasses().length < MOST_CLASSES);
+        checkSizes(face);
+        for (Class<?> inside : face.getDeclaredClasses()) {
+            checkSizes(inside);
+        }
+        String source = Files.readString(Path.of("src/main/java/UnderLadders.java"));
+        checkSource(source);
+        checkIndexes(source);
+        checkMethodTexts(source.split("\n"));
         due.end();
     }
 
@@ -93,5 +109,60 @@ public final class FaceTest {
             due.is("the source has " + form, Pattern.compile(form).matcher(code).find() ? 1 : 0, 0);
         }
         due.is("signs beyond 127", source.chars().filter(c -> c > 127).count(), 0);
+    }
+
+    /** Rules 5 and 11: no static state, few fields, few parameters. */
+    private static void checkSizes(Class<?> one) {
+        int fields = 0;
+        for (Field f : one.getDeclaredFields()) {
+            if (Modifier.isStatic(f.getModifiers())) {
+                due.yes("rule 5: " + f + " is final", Modifier.isFinal(f.getModifiers()));
+                due.yes("rule 5: " + f + " is of a type for constants", STATIC_TYPES.contains(f.getType()));
+            } else {
+                fields++;
+            }
+        }
+        due.yes("rule 11: fields of " + one, fields <= MOST_FIELDS);
+        for (Method m : one.getDeclaredMethods()) {
+            due.yes("rule 11: parameters of " + m, m.getParameterCount() <= MOST_PARAMETERS);
+        }
+    }
+
+    /** Rule 7: an index that is reckoned gets a name first, by which it can be looked at before it is used. */
+    private static void checkIndexes(String source) {
+        Matcher index = INDEX.matcher(source);
+        while (index.find()) {
+            due.yes("rule 7: a plain name or number is the index of " + index.group(), index.group(1).matches("\\w+"));
+        }
+    }
+
+    private static int declaredIn(Class<?> one) {
+        int declared = one.getDeclaredMethods().length + one.getDeclaredConstructors().length;
+        for (Class<?> inside : one.getDeclaredClasses()) {
+            declared += declaredIn(inside);
+        }
+        return declared;
+    }
+
+    /** Rules 11 and 12: methods are short, and only constructors make objects. */
+    private static void checkMethodTexts(String[] lines) {
+        int found = 0;
+        for (int i = 0; i < lines.length; i++) {
+            Matcher head = HEAD.matcher(lines[i]);
+            if (!head.matches()) {
+                continue;
+            }
+            found++;
+            int end = i;
+            boolean makes = false;
+            while (!lines[end].equals(head.group(1) + "}")) {
+                end++;
+                makes |= lines[end].matches(".*\\bnew\\b.*");
+            }
+            due.yes("rule 11: lines of " + lines[i].trim(), end - i + 1 <= MOST_LINES);
+            boolean isConstructor = Character.isUpperCase(head.group(2).charAt(0));
+            due.yes("rule 12: only constructors make objects: " + lines[i].trim(), isConstructor || !makes);
+        }
+        due.is("methods and constructors read", found, declaredIn(UnderLadders.class));
     }
 }

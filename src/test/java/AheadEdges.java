@@ -429,6 +429,14 @@ final class AheadEdges {
         due.is("no ladder", Due.market("MP0190").judge(1, 200), 0);
     }
 
+    @Edge(promise = 19, says = "2, 0, a LADDER: DOWN;")
+    static void whoComesDownBringsNobodyLuck(Due due) {
+        UnderLadders x = Due.market("ML010L110L210L310P0100");
+        for (int ladder = 0; ladder < 4; ladder++) {
+            due.is("down " + ladder + ", then 1 asked for", x.judge(2, 200_401L + 1000 * ladder), 1);
+        }
+    }
+
     @Edge(promise = 19, says = "3, a PERSON, a figure (1 to 9): GIVEN;")
     static void givenIsJudgedByPersonAndFigure(Due due) {
         UnderLadders x = Due.market("MP0100P0100P0100P0100P0100");

@@ -47,6 +47,18 @@ final class ChancesEdges {
         share(due, x, 2, 1, 6);
     }
 
+    @Edge(promise = {5, 23}, says = "if PEOPLE come one by one, in each order as likely")
+    static void peopleOfAnEarlierMarketDoNotCome(Due due) {
+        UnderLadders x = Due.market("ML490P3452P3452P3452P3452P3452");
+        share(due, x, 0, 1, 1);
+        Due.write(x, "ML490P3452");
+        x.market();
+        share(due, x, 0, 1, 1);
+        Due.write(x, "ML490P3432P3422");
+        x.market();
+        share(due, x, 0, 1, 2);
+    }
+
     @Edge(promise = 23, says = "in least terms")
     static void sharesAreToldInLeastTerms(Due due) {
         UnderLadders halves = Due.market("ML490P3432P3422");
